@@ -208,7 +208,7 @@ public final class CloneOutline {
     }
 
     public int readOutline() {
-        draft.clear();
+        draft.clearNodes();
         int fault = reader.read(typed, draft);
         if (fault != NO_FAULT) {
             return FAULT_BASE - fault;
@@ -839,10 +839,9 @@ public final class CloneOutline {
             places.copyFrom(other.places);
         }
 
-        void clear() {
+        void clearNodes() {
             nodes.made = 0;
             links.size = 0;
-            places.size = 0;
         }
 
         /** Makes the places of the links; those that were there before keep their folds. */

@@ -14,6 +14,7 @@ public final class FoldsAndTextsTest {
         promise12And13();
         promise14();
         promise14Faults();
+        promise14Again();
         promise14Full();
         promise15();
         promise16And17();
@@ -110,6 +111,13 @@ public final class FoldsAndTextsTest {
         check.dueText("11: undone", Check.rows(x), "1:1+ 1:5 2:3+");
         x.cut(0);
         check.due("11: vanished", x.show(1), UNKNOWN);
+        x = Check.outline("a(b(c),d(e(f))),g(h)");
+        x.fold(6, true);
+        x.fold(1, true);
+        x.fold(2, true);
+        check.dueText("11: rows", Check.rows(x), "1:1 2:2+ 2:4+ 1:7+");
+        check.due("11: f", x.show(6), 4);
+        check.dueText("11: what it is not within stays", Check.rows(x), "1:1 2:2+ 2:4 3:5 4:6 1:7+");
     }
 
     private static void promise12And13() {
@@ -212,6 +220,16 @@ public final class FoldsAndTextsTest {
         fault("a(b,c(b,d(b)),d(", 15);
         fault("abcdefghijklmnopqrstuvwxyzabcdefghijklmnopqrstuvwxyzabcdefgh", 1);
         fault("a,b,c,d,e,f,g,h,i,j,k,l,m,n,o,p,q,r,s,t,u,v,w,x,y,z(a,b,c,d,", 60);
+    }
+
+    private static void promise14Again() {
+        CloneOutline x = new CloneOutline();
+        check.due("14: a fault with open lists", Check.read(x, "a(b(c"), -105);
+        check.due("14: none is open then", Check.read(x, "a)"), -101);
+        check.due("14: a letter stands", Check.read(x, "b"), 1);
+        check.due("14: it does not stand any more", Check.read(x, "b(a)"), 2);
+        check.due("14: nor is it opened", Check.read(x, "(a)"), -100);
+        check.due("14: two states", x.count(7), 2);
     }
 
     private static void promise14Full() {

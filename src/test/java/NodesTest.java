@@ -20,6 +20,8 @@ public final class NodesTest {
         promise7();
         promise8();
         vanishedNodesAreNoParents();
+        theLastNode();
+        manyParents();
         check.end();
     }
 
@@ -270,6 +272,13 @@ public final class NodesTest {
         check.dueText("6: folds go along", Check.rows(x), "1:6 2:1 3:3 3:2 3:4 3:5 1:7 1:8 1:1+");
         check.due("6: act", x.count(7), 5);
         check.due("6: position", x.row(8, 2), 3);
+        x = Check.outline("a,b(x,y),c,d,e");
+        check.due("6: b by 1", x.shift(1, 1), 2);
+        check.dueText("6: one step later", Check.rows(x), "1:1 1:5 1:2 2:3 2:4 1:6 1:7");
+        check.due("6: e by -2", x.shift(6, -2), 2);
+        check.dueText("6: two steps earlier", Check.rows(x), "1:1 1:5 1:7 1:2 2:3 2:4 1:6");
+        check.due("6: y by -1", x.shift(5, -1), 0);
+        check.dueText("6: within b", Check.rows(x), "1:1 1:5 1:7 1:2 2:4 2:3 1:6");
         x = new CloneOutline();
         for (int i = 0; i < 40; i++) {
             Check.add(x, -1, "a");
@@ -338,5 +347,62 @@ public final class NodesTest {
         check.due("terms: shared none", x.count(5), 0);
         check.due("terms: vanished below", x.node(4, 1), UNKNOWN);
         check.due("terms: c is possible again", x.cloneTo(1, -1), 2);
+    }
+
+    private static void theLastNode() {
+        CloneOutline x = new CloneOutline();
+        for (int i = 0; i < 40; i++) {
+            Check.add(x, -1, "a");
+        }
+        check.due("terms: mark of node 40", x.mark(39, 4), 16);
+        Check.text(x, "12345678");
+        check.due("terms: text of node 40", x.edit(39), 1);
+        check.due("terms: clone of node 40", x.cloneTo(39, 0), 2);
+        check.due("terms: node 40 is shared", x.count(5), 1);
+        check.due("terms: its parents", x.node(40, 0), 2);
+        check.due("terms: keep", x.keep(), 41);
+        x.undo();
+        x.undo();
+        x.undo();
+        check.due("terms: no mark", x.row(39, 5), 0);
+        check.dueText("terms: the first text", Check.textOf(x, 39), "a");
+        check.due("terms: no clone", x.count(2), 40);
+        x.restore();
+        check.due("terms: the mark again", x.row(40, 5), 16);
+        check.dueText("terms: the text again", Check.textOf(x, 1), "12345678");
+        check.due("terms: there is no node 41", x.node(41, 0), UNKNOWN);
+    }
+
+    /** 120 places that are places of 120 different pairs of a parent and its child. */
+    private static void manyParents() {
+        CloneOutline x = Check.outline("a,b,c");
+        Check.text(x, "n");
+        for (int i = 0; i < 36; i++) {
+            check.due("terms: leaf " + i, x.add(0), i + 4);
+        }
+        for (int i = 0; i < 36; i++) {
+            check.due("terms: leaf into b", x.cloneTo(1 + i, 37), 2);
+        }
+        for (int i = 0; i < 36; i++) {
+            check.due("terms: leaf into c", x.cloneTo(1 + i, 74), 3);
+        }
+        for (int i = 0; i < 9; i++) {
+            check.due("terms: leaf to the root", x.cloneTo(1 + i, -1), 4);
+        }
+        check.due("terms: 120 places", x.count(2), 120);
+        check.due("terms: 36 shared", x.count(5), 36);
+        check.due("terms: no room to clone", x.cloneTo(10, -1), FULL);
+        check.due("terms: no room to add", x.add(119), FULL);
+        check.due("terms: room to move", x.move(10, -1), 3);
+        check.due("terms: still 120 places", x.count(2), 120);
+        check.due("terms: the last pair", x.cut(119), 0);
+        check.due("terms: 119 places", x.count(2), 119);
+        check.due("terms: fold all", x.foldLevel(1), 12);
+        check.due("terms: three folded", x.count(4), 3);
+        check.due("terms: the first folds", x.row(0, 4), 1);
+        check.due("terms: one more", x.cloneTo(3, 0), NOT_POSSIBLE);
+        check.due("terms: level", x.count(6), 2);
+        check.due("terms: cut c", x.cut(2), 1);
+        check.due("terms: 82 places", x.count(2), 119 - 37);
     }
 }
