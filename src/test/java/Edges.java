@@ -67,6 +67,26 @@ final class Edges {
         });
     }
 
+    /** 37 nodes within three others each, and six of them at the top, too: 120 places, each by a pair of its own. */
+    static Consumer<Outline> manyChildren() {
+        return x -> {
+            x.text("n");
+            for (int i = 0; i < 40; i++) {
+                x.add(Math.min(i - 1, 0));
+            }
+            x.move(1, -1);
+            x.move(1, -1);
+            for (int to = 38; to <= 39; to++) {
+                for (int i = 0; i < 37; i++) {
+                    x.cloneTo(1 + i, to + (to - 38) * 37);
+                }
+            }
+            for (int i = 0; i < 6; i++) {
+                x.cloneTo(1 + i, -1);
+            }
+        };
+    }
+
     /** A node with 39 children, the only one at the top; "n" is typed. */
     static Consumer<Outline> family() {
         return adding(40, "n").andThen(x -> {

@@ -101,6 +101,12 @@ public final class FoldsEdgesTest {
             "1:1 2:2+ 2:4 1:5 2:2+ 1:6");
         Consumer<Outline> unfold = setup.andThen(x -> x.fold(4, true)).andThen(x -> x.fold(1, true));
         edges.act("10: only to unfold", unfold, x -> x.foldLevel(3), 8, "1:1 2:2 3:3 2:4 1:5 2:2 3:3 1:6");
+        Outline unfolded = x(unfold.andThen(x -> x.foldLevel(3)));
+        edges.due("10: none is folded then", unfolded.count(4) + unfolded.row(1, 4) + unfolded.row(5, 4), 0);
+        edges.act("10: of 120 places", Edges.places(120), x -> x.foldLevel(1), 11, "1:1 1:2+ 1:3+ 1:4+ 1:5+ 1:6+ 1:7+ 1:8 1:9 1:10 1:11");
+        edges.still("10: none of 120 places", Edges.places(120), x -> x.foldLevel(7), NONE);
+        edges.still("10: folds of places that were cut", Edges.reading("a,b(c)").andThen(x -> x.fold(1, true)).andThen(x -> x.cut(1)),
+            x -> x.foldLevel(2), NONE);
         // The place of a node that has no children any more is of a level, but not folded by it; of a lower one, unfolded.
         Consumer<Outline> childless = Edges.reading("a(b),c(a),d(e)").andThen(x -> x.fold(0, true)).andThen(x -> x.cut(3));
         edges.act("10: its own level keeps it folded", childless, x -> x.foldLevel(1), 3, "1:1+ 1:3+ 1:4+");
@@ -134,6 +140,9 @@ public final class FoldsEdgesTest {
         edges.act("11: itself neither, one up", setup, x -> x.show(2), 1, "1:1 2:2+ 1:7 2:3+");
         edges.act("11: the deepest", setup, x -> x.show(4), 3, "1:1 2:2 3:3 4:4 3:5+ 1:7 2:3+");
         edges.act("11: behind a sibling that stays folded", setup, x -> x.show(6), 4, "1:1 2:2 3:3+ 3:5 4:6 1:7 2:3+");
+        Outline shown = x(setup.andThen(x -> x.show(3)));
+        edges.due("11: it is unfolded around", shown.row(0, 4) + shown.row(1, 4), 0);
+        edges.due("11: three are folded", shown.count(4), 3);
         edges.still("11: the top", setup, x -> x.show(7), NONE);
         edges.still("11: the top that is folded", setup, x -> x.show(1), NONE);
         Consumer<Outline> inner = setup.andThen(x -> x.fold(0, false));

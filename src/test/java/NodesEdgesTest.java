@@ -346,6 +346,10 @@ public final class NodesEdgesTest {
             });
             edges.act("8: take " + mark + " of all away", all, x -> x.mark(3, one), 31 - (1 << one), null);
         }
+        Consumer<Outline> last = Edges.adding(40, "n").andThen(x -> x.mark(39, 4));
+        edges.act("8: another mark of node 40", last, x -> x.mark(39, 0), 17, null);
+        edges.act("8: node 40 keeps its mark", last, x -> x.mark(0, 0), 1, null);
+        edges.due("8: and has it then", x(last.andThen(x -> x.mark(0, 0)).andThen(x -> x.mark(1, 0))).row(39, 5), 16);
         for (int mark : new int[] {-1, 5, 6, 31, 32, 36, -32, Integer.MAX_VALUE, Integer.MIN_VALUE}) {
             edges.still("8: mark " + mark, setup, x -> x.mark(1, mark), BAD_VALUE);
         }

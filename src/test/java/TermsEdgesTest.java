@@ -240,6 +240,14 @@ public final class TermsEdgesTest {
         edges.still("terms: move would make 121", Edges.places(120), x -> x.move(119, 31), FULL);
         edges.act("terms: read 120", Edges.reading("a", Edges.FAN + ",g(d,e,f)"), Outline::readOutline, 120, null);
         edges.still("terms: read 121", Edges.reading("a", Edges.FAN + ",g(d,e,f),h"), Outline::readOutline, FULL);
+        // The same where each place is a child in a way of its own.
+        Consumer<Outline> many = Edges.manyChildren();
+        edges.due("terms: 120 children", x(many).count(2), 120);
+        edges.still("terms: clone the 121st child", many, x -> x.cloneTo(7, -1), FULL);
+        edges.still("terms: add would be the 121st child, and the 41st node", many, x -> x.add(-1), FULL);
+        edges.act("terms: move one of 120 children", many, x -> x.move(7, -1), 3, null);
+        edges.act("terms: cut the last of 120 children", many, x -> x.cut(119), 0, null);
+        edges.act("terms: clone the 120th child", many.andThen(x -> x.cut(119)), x -> x.cloneTo(7, -1), 4, null);
         Outline x = x(Edges.places(120));
         edges.due("terms: 120 places", x.count(2), 120);
         edges.due("terms: 120 rows", x.count(3), 120);

@@ -338,6 +338,8 @@ public final class ToldEdgesTest {
         counts("a full text", Edges.reading("a", "n".repeat(60)), 1, 1, 1, 1, 0, 0, 1, 1, 60);
         // a to f are shared: each stands in the root and in at least one other.
         counts("120 places", Edges.places(120), 11, 11, 120, 120, 0, 6, 7, 5, 1);
+        counts("node 40 in two", Edges.adding(40, "n").andThen(x -> x.cloneTo(39, 0)), 40, 40, 41, 41, 0, 1, 2, 5, 1);
+        counts("120 children", Edges.manyChildren(), 40, 40, 120, 120, 0, 37, 2, 5, 1);
         counts("a shared node of the root", Edges.reading("a(b),b"), 2, 2, 3, 3, 0, 1, 2, 1, 1);
         counts("a fold that is not seen", Edges.reading("a(b(c))").andThen(x -> x.fold(1, true)).andThen(x -> x.fold(0, true)),
             3, 3, 3, 1, 2, 0, 3, 3, 1);
