@@ -73,6 +73,14 @@ public final class NodesEdgesTest {
             edges.still("2: a text of " + length + " at the top", Edges.reading("a", "n".repeat(length)), x -> x.add(-1), BAD_VALUE);
         }
         edges.still("2: a new object has no text", Edges.NOTHING, x -> x.add(-1), BAD_VALUE);
+        Outline eights = x(Edges.adding(3, "abcdefgh").andThen(x -> x.text("12345678").edit(1)));
+        edges.dueText("7: the node before keeps its text", eights.textOf(0), "abcdefgh");
+        edges.dueText("7: the node itself does not", eights.textOf(1), "12345678");
+        edges.dueText("7: the node behind keeps its text", eights.textOf(2), "abcdefgh");
+        eights.text("last").add(-1);
+        edges.dueText("2: the node before has its text", eights.textOf(2), "abcdefgh");
+        edges.dueText("2: the text of node 40", x(Edges.adding(40, "abcdefgh")).textOf(39), "abcdefgh");
+        edges.dueText("7: the text of node 40", x(Edges.adding(40, "n").andThen(x -> x.text("abcdefgh").edit(39))).textOf(39), "abcdefgh");
         Outline x = x(Edges.reading("a", "one"));
         x.add(0);
         x.text("other");
@@ -349,6 +357,7 @@ public final class NodesEdgesTest {
         Consumer<Outline> last = Edges.adding(40, "n").andThen(x -> x.mark(39, 4));
         edges.act("8: another mark of node 40", last, x -> x.mark(39, 0), 17, null);
         edges.act("8: node 40 keeps its mark", last, x -> x.mark(0, 0), 1, null);
+        edges.due("8: the nodes beside have none", x(last).row(38, 5) + x(last).row(0, 5), 0);
         edges.due("8: and has it then", x(last.andThen(x -> x.mark(0, 0)).andThen(x -> x.mark(1, 0))).row(39, 5), 16);
         for (int mark : new int[] {-1, 5, 6, 31, 32, 36, -32, Integer.MAX_VALUE, Integer.MIN_VALUE}) {
             edges.still("8: mark " + mark, setup, x -> x.mark(1, mark), BAD_VALUE);

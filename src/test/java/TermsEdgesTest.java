@@ -328,6 +328,14 @@ public final class TermsEdgesTest {
         edges.act("terms: new by readOutline", setup.andThen(x -> x.text("a(b(c(d))),e")), Outline::readOutline, 5,
             "1:1 2:2 3:3 4:4 1:5");
         edges.act("terms: cut brings no fold to others", setup, x -> x.cut(1), 3, "1:1 1:5");
+        // b or c stands at the top, too, and is folded there: its new place deeper down is not.
+        Consumer<Outline> top = Edges.reading("a(b(x)),b,e").andThen(x -> x.fold(3, true));
+        edges.act("terms: new by cloneTo, not as at the top", top, x -> x.cloneTo(0, 4), 2, "1:1 2:2 3:3 1:2+ 1:4 2:1 3:2 4:3");
+        edges.act("terms: new by move, not as at the top", top, x -> x.move(0, 4), 1, "1:2+ 1:4 2:1 3:2 4:3");
+        Consumer<Outline> deeper = Edges.reading("a(b(c(x))),c,e").andThen(x -> x.fold(4, true));
+        edges.act("terms: new and deeper, not as at the top", deeper, x -> x.cloneTo(0, 5), 2,
+            "1:1 2:2 3:3 4:4 1:3+ 1:5 2:1 3:2 4:3 5:4");
+        edges.act("terms: moved and deeper, not as at the top", deeper, x -> x.move(0, 5), 1, "1:3+ 1:5 2:1 3:2 4:3 5:4");
         // c moves from b to a while b's other place, its own place in a, and d in e are folded.
         Consumer<Outline> others = Edges.reading("a(b(c(x))),e(b,d(y))").andThen(x -> x.fold(8, true))
             .andThen(x -> x.fold(5, true)).andThen(x -> x.fold(2, true));
