@@ -16,6 +16,10 @@ public final class ModelTest {
         "x"
     };
 
+    private static final int[] FAR = {
+        Integer.MIN_VALUE, Integer.MIN_VALUE + 1, -2, 119, 120, 121, Integer.MAX_VALUE - 1, Integer.MAX_VALUE
+    };
+
     private static final Check check = new Check("ModelTest");
     private static final int[] answers = new int[7];
     private static long seed;
@@ -62,6 +66,9 @@ public final class ModelTest {
     private static int someRow() {
         int rows = y.count(3);
         int pick = below(20);
+        if (pick == 0 && below(4) == 0) {
+            return FAR[below(FAR.length)];
+        }
         if (pick == 0) {
             return rows + below(3);
         }
@@ -154,7 +161,7 @@ public final class ModelTest {
     private static void ask(int run, int call) {
         int row = someRow();
         int node = someNode();
-        int what = below(11) - 1;
+        int what = below(40) == 0 ? FAR[below(FAR.length)] : below(11) - 1;
         switch (below(9)) {
             case 0, 1 -> same(run, call, "row(" + row + ", " + what + ")", x.row(row, what), y.row(row, what));
             case 2 -> same(run, call, "number(" + row + ", " + what + ")", x.number(row, what), y.number(row, what));

@@ -13,7 +13,6 @@ public final class ToldTest {
         promise22();
         promise23();
         promise24();
-        face();
         check.end();
     }
 
@@ -175,23 +174,5 @@ public final class ToldTest {
         for (int what = 0; what <= 8; what++) {
             check.due("24: then count(" + what + ")", x.count(what), then[what]);
         }
-    }
-
-    private static void face() {
-        check.due("UNKNOWN", CloneOutline.UNKNOWN, -2);
-        check.due("BAD_VALUE", CloneOutline.BAD_VALUE, -3);
-        check.due("FULL", CloneOutline.FULL, -4);
-        check.due("NOT_POSSIBLE", CloneOutline.NOT_POSSIBLE, -5);
-        check.due("NONE", CloneOutline.NONE, -6);
-        int seen = 0;
-        for (var method : CloneOutline.class.getDeclaredMethods()) {
-            seen += java.lang.reflect.Modifier.isPrivate(method.getModifiers()) ? 0 : 1;
-        }
-        check.due("methods that are not private", seen, 23);
-        int fields = 0;
-        for (var field : CloneOutline.class.getDeclaredFields()) {
-            fields += java.lang.reflect.Modifier.isPrivate(field.getModifiers()) ? 0 : 1;
-        }
-        check.due("fields that are not private", fields, 5);
     }
 }
